@@ -1,0 +1,318 @@
+import java.util.ArrayList;
+import java.util.Arrays;
+import java.util.List;
+
+/** Many runs of 512 calls, each call on the class and on the model; the answers must be like. */
+public final class FuzzTest {
+    private static final int RUNS = 1500;
+    private static final int CALLS = 512;
+    private static final String[] NAMES = ("member member died save save save save save draw draw found found saved look "
+        + "look ask ask ask ask back back askOf askOf answer answer pay pay pay pay loanOf dues taken alike says why "
+        + "cost year got got voided runs runs calm best best judge judge fall fall duty duty counted suspects book wrong "
+        + "count count lay set set row copy status text text text tear image undo").split(" ");
+    private static final String[] PIECES = ("bond limit rate reserve div dormant work street saved owed joined late "
+        + "kind sum week cash if or and not ( ) + - * / % = < > 0 1 7 99999 100000 00001 x ; bonds").split(" ");
+
+    private final Dice dice;
+    private final CommonBond x = new CommonBond();
+    private final Model model = new Model();
+    private final List<String> told = new ArrayList<>();
+    private final int longRun;
+    private boolean like = true;
+
+    private FuzzTest(long seed) {
+        dice = new Dice(seed);
+        longRun = dice.from(1, 60);
+    }
+
+    public static void main(String[] args) {
+        int runs = args.length > 0 ? Integer.parseInt(args[0]) : RUNS;
+        long first = args.length > 1 ? Long.parseLong(args[1]) : 1;
+        for (long seed = first; seed < first + runs; seed++) {
+            FuzzTest t = new FuzzTest(seed);
+            t.go();
+            if (!t.like) {
+                System.out.println("FuzzTest: run " + seed + " is not like the model");
+                System.exit(1);
+            }
+        }
+        System.out.println("FuzzTest: " + runs + " runs, all like the model");
+    }
+
+    private void go() {
+        int members = dice.from(1, 6);
+        for (int i = 0; i < members; i++) {
+            same("member", dice.from(0, 9), dice.from(0, 9));
+        }
+        for (int i = 0; i < CALLS && like; i++) {
+            int kind = dice.from(0, 19);
+            if (kind == 0) {
+                same("run", dice.from(0, 9) == 0 ? dice.from(-2, 70) : dice.from(1, longRun));
+            } else if (kind == 1 && dice.from(0, 3) == 0) {
+                lendTo();
+            } else {
+                one(NAMES[dice.from(0, NAMES.length - 1)]);
+            }
+        }
+        sweep();
+    }
+
+    private void same(String name, int... a) {
+        if (!like) {
+            return;
+        }
+        long want = model.call(name, a);
+        long got = Calls.call(x, name, a);
+        told.add(name + Arrays.toString(a) + " -> " + want);
+        if (got != want) {
+            like = false;
+            for (String line : told) {
+                System.out.println(line);
+            }
+            System.out.println("the class answered " + got + " to the last one");
+        }
+    }
+
+    /** A number that is mostly in place, now and then at an edge or far out. */
+    private int near(int low, int high) {
+        int way = dice.from(0, 39);
+        switch (way) {
+            case 0: return low - 1;
+            case 1: return high + 1;
+            case 2: return Integer.MAX_VALUE;
+            case 3: return Integer.MIN_VALUE;
+            case 4: return low;
+            case 5: return high;
+            default: return high < low ? low : dice.from(low, high);
+        }
+    }
+
+    private int member() {
+        return near(0, x.count(1) - 1);
+    }
+
+    private int ask() {
+        return dice.from(0, 2) > 0 ? near(Math.max(0, x.count(5) - 4), x.count(5) - 1) : near(0, x.count(5) - 1);
+    }
+
+    private int loan() {
+        return near(0, x.count(6) - 1);
+    }
+
+    private int week() {
+        return near(0, x.count(0));
+    }
+
+    private int much() {
+        switch (dice.from(0, 4)) {
+            case 0: return near(1, 99999);
+            case 1: return near(1, 9999);
+            default: return near(1, 3000);
+        }
+    }
+
+    private void lendTo() {
+        same("save", member(), much());
+        same("ask", 10 * member() + dice.from(0, 5), dice.from(1, 3000), dice.from(1, 12));
+        same("back", x.count(5) - 1, member(), dice.from(1, 3000));
+        same("back", x.count(5) - 1, member(), dice.from(1, 3000));
+        same("answer", x.count(5) - 1);
+    }
+
+    private void one(String name) {
+        switch (name) {
+            case "member": same(name, near(0, 9), near(0, 9)); break;
+            case "died":
+                if (dice.from(0, 4) == 0) {
+                    same(name, member(), week());
+                }
+                break;
+            case "save": same(name, member(), much()); break;
+            case "draw": same(name, member(), much()); break;
+            case "found": same(name, member(), near(0, x.count(0) - 1), dice.from(0, 1) == 0 ? much() : -much()); break;
+            case "saved": same(name, member(), week(), week()); break;
+            case "look": same(name, member(), near(0, 9)); break;
+            case "ask": same(name, near(0, 10 * x.count(1) - 1), much(), near(1, dice.from(0, 1) == 0 ? 60 : 6)); break;
+            case "back": same(name, ask(), member(), much()); break;
+            case "askOf": same(name, ask(), near(0, 9)); break;
+            case "answer": same(name, ask()); break;
+            case "pay": pay(); break;
+            case "loanOf": same(name, loan(), near(0, 10)); break;
+            case "dues": same(name, loan(), dice.from(0, 3) == 0 ? near(0, 1000) : near(0, x.count(0) + 20)); break;
+            case "taken": same(name, loan(), near(0, 5)); break;
+            case "alike": same(name, ask(), ask()); break;
+            case "says": case "why": same(name, near(0, 5), who()); break;
+            case "cost": same(name, dice.from(0, 4) == 0 ? much() : near(1, 20)); break;
+            default: two(name);
+        }
+    }
+
+    private void two(String name) {
+        switch (name) {
+            case "year": same(name, near(0, x.count(10) - 1), near(0, 6)); break;
+            case "got": same(name, near(0, x.count(10) - 1), member(), near(0, 5)); break;
+            case "runs": same(name, near(0, 3), near(0, 7), dice.from(0, 3) == 0 ? near(0, 99999) : near(0, 800)); break;
+            case "calm": same(name, near(0, 3)); break;
+            case "best": best(); break;
+            case "judge": judge(); break;
+            case "fall": same(name, member(), near(0, 2)); break;
+            case "duty": same(name, member()); break;
+            case "counted": counted(); break;
+            case "book": book(); break;
+            case "count": same(name, near(0, 15)); break;
+            case "lay": same(name, near(0, 12)); break;
+            case "set": same(name, near(0, 11), near(0, 23)); break;
+            case "row": same(name, near(0, 11)); break;
+            case "copy": same(name, near(0, 8), near(0, 8), near(0, 5)); break;
+            case "status": same(name, near(-8, -2)); break;
+            case "text": text(); break;
+            case "image": case "undo": case "voided": case "tear":
+                if (dice.from(0, 3) == 0) {
+                    same(name);
+                }
+                break;
+            default: same(name);
+        }
+    }
+
+    private int who() {
+        switch (dice.from(0, 2)) {
+            case 0: return near(-1, 15);
+            case 1: return near(100, 100 + x.count(5) - 1);
+            default: return member();
+        }
+    }
+
+    private void pay() {
+        int loan = loan();
+        if (loan >= 0 && loan < x.count(6) && dice.from(0, 2) > 0) {
+            int owed = x.loanOf(loan, 5);
+            same("pay", loan, dice.from(0, 4) == 0 ? owed : near(1, Math.max(1, owed)));
+        } else {
+            same("pay", loan, much());
+        }
+    }
+
+    private void best() {
+        int bits = 0;
+        int size = x.count(5);
+        for (int i = 0; i < 8 && size > 0; i++) {
+            bits |= 1 << dice.from(0, size - 1);
+        }
+        same("best", dice.from(0, 4) == 0 ? near(0, (1 << size) - 1) : bits);
+    }
+
+    private void judge() {
+        int size = dice.from(0, 3);
+        same("lay", size);
+        for (int i = 0; i < size; i++) {
+            same("set", i, ask());
+        }
+        same("judge");
+    }
+
+    private void counted() {
+        int cash = x.count(3);
+        same("counted", dice.from(0, 1) == 0 ? cash : near(0, 9999999));
+    }
+
+    private void book() {
+        int member = member();
+        int week = week();
+        int much = near(-9999999, 9999999);
+        if (member >= 0 && member < x.count(1) && week >= 0 && week <= x.count(0) && dice.from(0, 1) == 0) {
+            much = x.saved(member, week, x.count(0));
+        }
+        same("book", member, week, much);
+    }
+
+    private void text() {
+        if (dice.from(0, 9) > 0) {
+            same("wipe");
+        }
+        StringBuilder text = new StringBuilder(PIECES[dice.from(0, 5)]).append(' ');
+        if (dice.from(0, 3) == 0) {
+            for (int i = dice.from(0, 25); i >= 0; i--) {
+                text.append(PIECES[dice.from(0, PIECES.length - 1)]).append(dice.from(0, 2) > 0 ? " " : "");
+            }
+        } else {
+            expression(text, 0);
+            if (dice.from(0, 1) == 0) {
+                expression(text.append(" if "), 0);
+            }
+        }
+        if (dice.from(0, 3) == 0) {
+            text.setCharAt(dice.from(0, text.length() - 1), (char) dice.from(0, 255));
+        }
+        for (int i = 0; i < text.length();) {
+            int n = Math.min(dice.from(1, 4), text.length() - i);
+            int bytes = dice.from(0, 255);
+            for (int j = 0; j < n; j++) {
+                bytes = bytes << 8 | text.charAt(i + j);
+            }
+            same("feed", bytes, n);
+            i += n;
+        }
+        if (dice.from(0, 9) == 0) {
+            same("feed", near(0, 99999999), near(0, 4));
+        }
+        same("rule", dice.from(0, 4) == 0 ? near(0, 1000) : near(0, 5), near(1, 1000));
+    }
+
+    private void expression(StringBuilder text, int depth) {
+        int way = dice.from(0, 11);
+        if (depth > 4 || way < 3) {
+            text.append(dice.from(0, 1) == 0 ? "" + dice.from(0, dice.from(0, 1) == 0 ? 9 : 9999)
+                : PIECES[dice.from(6, 15)]);
+        } else if (way == 3) {
+            expression(text.append("not "), depth + 1);
+        } else if (way == 4) {
+            expression(text.append("- "), depth + 1);
+        } else if (way == 5) {
+            expression(text.append('('), depth + 1);
+            text.append(')');
+        } else {
+            expression(text, depth + 1);
+            text.append(' ').append(PIECES[new int[] {17, 18, 22, 23, 24, 25, 26, 27, 28, 29}[dice.from(0, 9)]]).append(' ');
+            expression(text, depth + 1);
+        }
+    }
+
+    /** At the end all that can be asked. */
+    private void sweep() {
+        for (int i = 0; i < 16; i++) {
+            same("count", i);
+        }
+        for (int i = -8; i <= -2; i++) {
+            same("status", i);
+        }
+        for (int m = 0; m < x.count(1); m++) {
+            for (int what = 0; what < 10; what++) {
+                same("look", m, what);
+            }
+            for (int what = 0; what < 3; what++) {
+                same("fall", m, what);
+            }
+            for (int y = 0; y < x.count(10); y++) {
+                for (int what = 0; what < 6; what++) {
+                    same("got", y, m, what);
+                }
+            }
+        }
+        for (int a = 0; a < x.count(5); a++) {
+            for (int what = 0; what < 10; what++) {
+                same("askOf", a, what);
+            }
+        }
+        for (int l = 0; l < x.count(6); l++) {
+            for (int what = 0; what < 11; what++) {
+                same("loanOf", l, what);
+            }
+        }
+        for (int y = 0; y < x.count(10); y++) {
+            for (int what = 0; what < 7; what++) {
+                same("year", y, what);
+            }
+        }
+    }
+}
