@@ -18,11 +18,14 @@ public final class FuzzTest {
     private final Model model = new Model();
     private final List<String> told = new ArrayList<>();
     private final int longRun;
+    // Every other run has members who stand for one another, and none whose books go below 0.
+    private final boolean entangled;
     private boolean like = true;
 
     private FuzzTest(long seed) {
         dice = new Dice(seed);
         longRun = dice.from(1, 60);
+        entangled = seed % 2 == 0;
     }
 
     public static void main(String[] args) {
@@ -40,7 +43,7 @@ public final class FuzzTest {
     }
 
     private void go() {
-        int members = dice.from(1, 6);
+        int members = dice.from(1, entangled ? 12 : 6);
         for (int i = 0; i < members; i++) {
             same("member", dice.from(0, 9), dice.from(0, 9));
         }
@@ -50,6 +53,8 @@ public final class FuzzTest {
                 same("run", dice.from(0, 9) == 0 ? dice.from(-2, 70) : dice.from(1, longRun));
             } else if (kind == 1 && dice.from(0, 3) == 0) {
                 lendTo();
+            } else if (kind < 4 && entangled) {
+                entangle();
             } else {
                 one(NAMES[dice.from(0, NAMES.length - 1)]);
             }
@@ -119,6 +124,23 @@ public final class FuzzTest {
         same("answer", x.count(5) - 1);
     }
 
+    /** A member gets a loan on nearly all it saved, or one that another stands for with nearly all of its own. */
+    private void entangle() {
+        int member = dice.from(0, x.count(1) - 1);
+        int other = dice.from(0, x.count(1) - 1);
+        int week = x.count(0);
+        if (x.saved(member, week, week) < 300) {
+            same("save", member, dice.from(1, 900));
+        }
+        int secured = dice.from(0, 2);
+        int free = x.saved(secured > 0 ? member : other, week, week) - (secured > 0 ? x.look(member, 4) : 0);
+        int sum = Math.max(1, Math.min(99999, free - dice.from(0, 9)));
+        same("ask", 10 * member + (secured > 0 ? 2 : dice.from(0, 4)), sum, dice.from(1, 30));
+        same("back", x.count(5) - 1, other, Math.max(1, Math.min(99999, free)));
+        same("answer", x.count(5) - 1);
+        same("fall", member, dice.from(0, 2));
+    }
+
     private void one(String name) {
         switch (name) {
             case "member": same(name, near(0, 9), near(0, 9)); break;
@@ -129,7 +151,7 @@ public final class FuzzTest {
                 break;
             case "save": same(name, member(), much()); break;
             case "draw": same(name, member(), much()); break;
-            case "found": same(name, member(), near(0, x.count(0) - 1), dice.from(0, 1) == 0 ? much() : -much()); break;
+            case "found": found(); break;
             case "saved": same(name, member(), week(), week()); break;
             case "look": same(name, member(), near(0, 9)); break;
             case "ask": same(name, near(0, 10 * x.count(1) - 1), much(), near(1, dice.from(0, 1) == 0 ? 60 : 6)); break;
@@ -173,6 +195,11 @@ public final class FuzzTest {
                 break;
             default: same(name);
         }
+    }
+
+    private void found() {
+        int much = dice.from(0, 1) == 0 || entangled ? much() : -much();
+        same("found", member(), near(0, x.count(0) - 1), much);
     }
 
     private int who() {
