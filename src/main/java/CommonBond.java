@@ -1549,13 +1549,12 @@ public final class CommonBond {
         }
 
         int suspected() {
-            int before = 0;
             int first = 0;
             for (int i = 0; i < counts; i++) {
-                if (shortBy[i] != before) {
+                // All ahead of the one that is sought are short by 0, as what is ahead of the first.
+                if (shortBy[i] != 0) {
                     return onDutyFrom(first, countWeek[i]);
                 }
-                before = shortBy[i];
                 first = countWeek[i] + 1;
             }
             return NONE;
@@ -1795,10 +1794,8 @@ public final class CommonBond {
         private void closeYear() {
             Years years = state.years;
             int year = years.closed;
+            // The rows of a year that isn't closed are all 0, also behind an undo.
             long[] sums = years.sums[year];
-            Arrays.fill(sums, 0);
-            Arrays.fill(years.dividend[year], 0);
-            Arrays.fill(years.rebate[year], 0);
             System.arraycopy(years.runningShares, 0, years.shares[year], 0, MEMBERS);
             sums[EARNED] = earn(years.earned[year]);
             sums[LOST] = years.runningLost;
@@ -1816,7 +1813,6 @@ public final class CommonBond {
         /** What the loans earned since the last year closed, by members and in all. */
         private long earn(long[] byMember) {
             Loans loans = state.loans;
-            Arrays.fill(byMember, 0);
             long all = 0;
             for (int i = 0; i < loans.size; i++) {
                 long whole = (long) loans.sum[i] + loans.interest[i];

@@ -20,12 +20,15 @@ public final class FuzzTest {
     private final int longRun;
     // Every other run has members who stand for one another, and none whose books go below 0.
     private final boolean entangled;
+    // Every fifth one begins with as much of all as there may be.
+    private final boolean full;
     private boolean like = true;
 
     private FuzzTest(long seed) {
         dice = new Dice(seed);
         longRun = dice.from(1, 60);
         entangled = seed % 2 == 0;
+        full = seed % 5 == 0;
     }
 
     public static void main(String[] args) {
@@ -43,6 +46,9 @@ public final class FuzzTest {
     }
 
     private void go() {
+        if (full) {
+            fill();
+        }
         int members = dice.from(1, entangled ? 12 : 6);
         for (int i = 0; i < members; i++) {
             same("member", dice.from(0, 9), dice.from(0, 9));
@@ -55,6 +61,8 @@ public final class FuzzTest {
                 lendTo();
             } else if (kind < 4 && entangled) {
                 entangle();
+            } else if (kind == 4 && dice.from(0, 3) == 0) {
+                plan();
             } else {
                 one(NAMES[dice.from(0, NAMES.length - 1)]);
             }
@@ -122,6 +130,49 @@ public final class FuzzTest {
         same("back", x.count(5) - 1, member(), dice.from(1, 3000));
         same("back", x.count(5) - 1, member(), dice.from(1, 3000));
         same("answer", x.count(5) - 1);
+    }
+
+    /** Asks that wait, and runs that take about what there is. */
+    private void plan() {
+        int asks = dice.from(1, 5);
+        int cash = x.count(3);
+        for (int i = 0; i < asks; i++) {
+            same("ask", 10 * dice.from(0, x.count(1) - 1) + dice.from(0, 2), dice.from(1, Math.max(1, cash / 2)),
+                dice.from(1, 9));
+        }
+        for (int i = dice.from(0, 3); i > 0; i--) {
+            same("runs", dice.from(0, 3), dice.from(0, 7), dice.from(0, Math.min(99999, cash)));
+        }
+        int first = Math.max(0, x.count(5) - 8);
+        same("best", ((1 << x.count(5) - first) - 1) << first);
+        judge();
+    }
+
+    private void fill() {
+        for (int i = 0; i < 17; i++) {
+            same("member", dice.from(0, 9), dice.from(0, 9));
+            same("save", i, dice.from(3000, 9000));
+        }
+        for (int i = 0; i < 25; i++) {
+            int member = dice.from(0, 15);
+            same("ask", 10 * member + dice.from(0, 5), dice.from(1, 1250), dice.from(1, 60));
+            for (int j = 1; j < 6; j++) {
+                same("back", i, (member + j) % 16, dice.from(300, 2000));
+            }
+        }
+        int left = dice.from(0, 9);
+        for (int i = left; i < 24; i++) {
+            same("answer", i);
+        }
+        for (int i = dice.from(0, 12); i > 0; i--) {
+            text();
+        }
+        for (int i = 0; i < 21; i++) {
+            book();
+            counted();
+            same("best", dice.from(0, (1 << 24) - 1) & dice.from(0, (1 << 24) - 1) & dice.from(0, (1 << 24) - 1));
+        }
+        same("image");
     }
 
     /** A member gets a loan on nearly all it saved, or one that another stands for with nearly all of its own. */

@@ -215,6 +215,40 @@ public final class RunsTest {
         y.ask(0, 70, 4);
         y.ask(0, 80, 4);
         C.due("0 and 2 rather than 1 and 3", y.best(15), 5);
+        CommonBond z = two(100);
+        z.ask(0, 60, 4);
+        z.ask(0, 61, 4);
+        C.due("1 more is greater", z.best(3), 2);
+        bestThroughRuns();
+    }
+
+    private static void bestThroughRuns() {
+        CommonBond x = two(1000);
+        x.ask(10, 400, 4);
+        x.answer(0);
+        x.run(1);
+        // 600 are there; 100 come in each of 4 weeks, 101 in the last one.
+        x.ask(0, 200, 2);
+        x.ask(0, 200, 4);
+        x.ask(0, 200, 1);
+        C.due("all", x.best(14), 14);
+        x.runs(2, 0, 100);
+        C.due("what open loans bring", x.best(14), 14);
+        x.runs(2, 1, 450);
+        C.due("and what the new ones would: 100, 50 and 200", x.best(14), 14);
+        x.runs(2, 1, 451);
+        C.due("not all: rather the sooner ones", x.best(14), 10);
+        x.runs(2, 1, 0);
+        x.runs(1, 0, 301);
+        C.due("the least of like ones", x.best(14), 2);
+        x.runs(1, 0, 701);
+        C.due("none", x.best(14), 0);
+        x.calm(1);
+        x.calm(2);
+        x.runs(0, 7, 1001);
+        C.due("through all of it", x.best(14), 14);
+        x.runs(0, 7, 1002);
+        C.due("nothing helps", x.best(14), 0);
     }
 
     private static void mayNotBe() {

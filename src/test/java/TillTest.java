@@ -37,6 +37,10 @@ public final class TillTest {
         x.run(39);
         C.due("in the last week", x.duty(1), -1);
         C.due("again", x.duty(2), 1);
+        x.image();
+        x.duty(0);
+        x.undo();
+        C.due("as it was kept", x.duty(1), 2);
     }
 
     private static void counted() {

@@ -334,6 +334,14 @@ public final class WeeksTest {
         x.found(2, 0, 99999);
         C.due("or so much", x.got(0, 2, 5), 37);
         C.due("void or not", x.got(0, 1, 5), 1);
+        CommonBond y = earning(97);
+        y.run(52);
+        C.due("all of it", y.got(0, 0, 5) + y.got(0, 1, 5), 39);
+        y.found(0, 0, -3000);
+        y.found(1, 0, -1000);
+        C.due("no share-weeks are left", y.got(0, 0, 4) + y.got(0, 1, 4), 0);
+        C.due("then nobody would get it", y.got(0, 0, 5), 0);
+        C.due("nobody at all", y.got(0, 1, 5), 0);
     }
 
     private static void voided() {
