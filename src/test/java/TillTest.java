@@ -11,6 +11,8 @@ public final class TillTest {
         count();
         image();
         imageOfAll();
+        undoneAndDoneAgain();
+        imageOfMost();
         C.end();
     }
 
@@ -247,6 +249,86 @@ public final class TillTest {
         C.due("who was on duty", x.duty(1), -1);
         C.due("nobody died", x.look(0, 3), -1);
         C.due("the year isn't void", x.year(0, 6), 0);
+    }
+
+    /** What stood in a place ahead of undo() is not there in what comes into it then. */
+    private static void undoneAndDoneAgain() {
+        CommonBond x = three();
+        x.save(0, 1000);
+        x.save(1, 30);
+        x.save(2, 5000);
+        x.image();
+        x.ask(0, 700, 1);
+        x.back(0, 1, 20);
+        x.answer(0);
+        x.draw(0, 900);
+        x.run(2);
+        x.pay(0, 100);
+        x.duty(2);
+        x.died(2, 1);
+        x.member(4, 5);
+        x.died(3, 2);
+        x.run(60);
+        C.due("lost", x.loanOf(0, 10), 480);
+        C.due("of the backer", x.loanOf(0, 9), 20);
+        x.undo();
+        Check.rule(x, "rate 100");
+        C.due("an ask in its place", x.ask(0, 700, 10), 0);
+        C.due("without backers", x.askOf(0, 4), 0);
+        C.due("without an answer", x.askOf(0, 7), -1);
+        C.due("without a loan", x.askOf(0, 9), -1);
+        x.answer(0);
+        long[] due = {0, 0, 70, 0, 0, 770, 0, 0, 0, 0, 0};
+        for (int i = 0; i < due.length; i++) {
+            C.due("a loan in its place: " + i, x.loanOf(0, i), due[i]);
+        }
+        C.due("a member in its place", x.member(6, 7), 3);
+        C.due("it lives", x.look(3, 3), -1);
+        C.due("it has nothing", x.saved(3, 0, 0), 0);
+        x.pay(0, 110);
+        x.run(1);
+        C.due("entries", x.count(2), 3);
+        C.due("of the dead", entriesBehind(x), 0);
+        x.run(51);
+        C.due("earned", x.got(0, 0, 3), 10);
+    }
+
+    private static long entriesBehind(CommonBond x) {
+        x.died(0, 0);
+        return x.look(0, 9);
+    }
+
+    private static void imageOfMost() {
+        CommonBond x = new CommonBond();
+        for (int i = 0; i < 16; i++) {
+            x.member(i % 10, 1);
+            x.save(i, 9000);
+        }
+        for (int i = 0; i < 24; i++) {
+            x.ask(10 * (i % 16), 100 + i, 4);
+            for (int j = 1; j < 5; j++) {
+                x.back(i, (i + j) % 16, 50 + j);
+            }
+            C.due("lent", x.answer(i), 0);
+        }
+        for (int i = 0; i < 12; i++) {
+            C.due("rule", Check.rule(x, "limit 10" + i), i);
+        }
+        for (int i = 0; i < 20; i++) {
+            x.book(i % 16, 0, 9000 + i % 2);
+            x.counted(x.count(3) - i);
+        }
+        x.lay(0);
+        C.due("the empty set", x.judge(), 1);
+        C.due("all fall", x.fall(15, 0), 1 << 15);
+        long[] kept = Look.all(x);
+        C.due("image", x.image(), 0);
+        x.run(60);
+        C.due("all failed", x.count(7), 0);
+        C.due("undo", x.undo(), 0);
+        C.so("all is as it was", java.util.Arrays.equals(kept, Look.all(x)));
+        C.due("rules", x.count(8), 12);
+        C.due("books", x.wrong(), 0xAAAAA);
     }
 
     private static void grow(CommonBond x) {
