@@ -144,10 +144,10 @@ public final class CommonBond {
     }
 
     public int died(int member, int week) {
-        if (noMember(member) || noWeek(week)) {
+        if (noMember(member)) {
             return tellZero(BEYOND);
         }
-        if (week < now.joined[member]) {
+        if (outside(week, now.joined[member], now.week)) {
             return tellZero(NO);
         }
         int before = now.death[member];

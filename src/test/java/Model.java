@@ -264,8 +264,8 @@ final class Model {
         }
 
         int died(int m, int w) {
-            need(isMember(m) && within(w, 0, week), -3);
-            need(w >= members.get(m).joined, -7);
+            need(isMember(m), -3);
+            need(w <= week && w >= members.get(m).joined, -7);
             int before = members.get(m).died;
             members.get(m).died = w;
             return before;
