@@ -18,8 +18,8 @@ public final class AsksTest {
         C.end();
     }
 
-    private static CommonBond three() {
-        CommonBond x = new CommonBond();
+    private static Bond three() {
+        Bond x = new Bond();
         x.member(1, 1);
         x.member(2, 2);
         x.member(3, 3);
@@ -27,7 +27,7 @@ public final class AsksTest {
     }
 
     private static void ask() {
-        CommonBond x = three();
+        Bond x = three();
         C.due("the least", x.ask(0, 1, 1), 0);
         C.due("the most", x.ask(25, 99999, 60), 1);
         C.refused("member 3", x, () -> x.ask(30, 1, 1), -3, -3);
@@ -52,7 +52,7 @@ public final class AsksTest {
     }
 
     private static void back() {
-        CommonBond x = three();
+        Bond x = three();
         for (int i = 3; i < 7; i++) {
             x.member(i, i);
         }
@@ -81,7 +81,7 @@ public final class AsksTest {
     }
 
     private static void askOf() {
-        CommonBond x = three();
+        Bond x = three();
         x.save(0, 5000);
         x.ask(23, 700, 7);
         x.back(0, 0, 300);
@@ -108,7 +108,7 @@ public final class AsksTest {
     }
 
     private static void limits() {
-        CommonBond x = three();
+        Bond x = three();
         x.save(0, 1001);
         for (int kind = 0; kind < 6; kind++) {
             x.ask(kind, 10, 5);
@@ -139,7 +139,7 @@ public final class AsksTest {
     }
 
     private static void interests() {
-        CommonBond x = three();
+        Bond x = three();
         for (int kind = 0; kind < 6; kind++) {
             x.ask(kind, 3333, 7);
         }
@@ -166,7 +166,7 @@ public final class AsksTest {
     }
 
     private static void answers() {
-        CommonBond x = three();
+        Bond x = three();
         x.save(0, 3000);
         x.save(1, 100);
         x.ask(20, 5001, 5);
@@ -204,14 +204,14 @@ public final class AsksTest {
         C.due("bond says 0", x.answer(7), 1);
     }
 
-    private static long barred(CommonBond x) {
+    private static long barred(Bond x) {
         x.ask(10, 50000, 1);
         x.died(1, 1);
         return x.askOf(5, 8);
     }
 
     private static void answerOfBacked() {
-        CommonBond x = three();
+        Bond x = three();
         x.save(1, 500);
         x.save(2, 500);
         x.ask(3, 900, 5);
@@ -233,7 +233,7 @@ public final class AsksTest {
     }
 
     private static void pay() {
-        CommonBond x = three();
+        Bond x = three();
         x.save(0, 5000);
         x.ask(10, 1000, 4);
         x.answer(0);
@@ -258,7 +258,7 @@ public final class AsksTest {
     }
 
     private static void loanOf() {
-        CommonBond x = three();
+        Bond x = three();
         x.save(0, 900);
         x.save(1, 400);
         x.save(2, 300);
@@ -306,7 +306,7 @@ public final class AsksTest {
     }
 
     private static void lost() {
-        CommonBond x = three();
+        Bond x = three();
         x.save(0, 1000);
         x.save(1, 150);
         x.save(2, 80);
@@ -326,14 +326,14 @@ public final class AsksTest {
         C.due("and so is what it has", x.saved(2, 14, 14), 0);
     }
 
-    private static void all(String when, CommonBond x, long[] due) {
+    private static void all(String when, Bond x, long[] due) {
         for (int i = 0; i < due.length; i++) {
             C.due(when + ", loanOf " + i, x.loanOf(0, i), due[i]);
         }
     }
 
     private static void dues() {
-        CommonBond x = three();
+        Bond x = three();
         x.save(0, 99999);
         Check.rule(x, "rate 50");
         Check.rule(x, "limit 20000");
@@ -368,7 +368,7 @@ public final class AsksTest {
     }
 
     private static void taken() {
-        CommonBond x = three();
+        Bond x = three();
         x.save(0, 99999);
         x.save(1, 99999);
         for (int kind = 0; kind < 6; kind++) {
@@ -391,7 +391,7 @@ public final class AsksTest {
     }
 
     private static void alike() {
-        CommonBond x = three();
+        Bond x = three();
         x.save(0, 1000);
         x.ask(0, 600, 5);
         x.ask(10, 600, 5);

@@ -1,3 +1,6 @@
+import java.util.Arrays;
+import java.util.function.LongSupplier;
+
 /** What the tests share: compares answers, feeds texts, and ends the run with the right exit code. */
 final class Check {
     private final String name;
@@ -20,8 +23,8 @@ final class Check {
         due(what, is ? 1 : 0, 1);
     }
 
-    /** A call that is refused: its answer is due, and status() of just that answer is one more. */
-    void refused(String what, CommonBond x, java.util.function.LongSupplier call, long want, int by) {
+    /** A call that is refused: its answer is due, status() of just that refusal is one more, and all else stays. */
+    void refused(String what, Bond x, LongSupplier call, long want, int by) {
         long[] before = Look.all(x);
         int[] status = Look.status(x);
         due(what, call.getAsLong(), want);
@@ -29,18 +32,23 @@ final class Check {
         for (int i = 0; i < status.length; i++) {
             due(what + ": status(" + -(i + 2) + ")", then[i] - status[i], -(i + 2) == by ? 1 : 0);
         }
-        long[] after = Look.all(x);
-        so(what + " changes nothing", java.util.Arrays.equals(before, after));
+        so(what + " changes nothing", Arrays.equals(before, Look.all(x)));
     }
 
-    static void feed(CommonBond x, String text) {
-        for (int i = 0; i < text.length(); i++) {
-            x.feed(text.charAt(i), 1);
+    static void feed(Bond x, String text) {
+        for (int i = 0; i < text.length();) {
+            int n = Math.min(4, text.length() - i);
+            int bytes = 0;
+            for (int j = 0; j < n; j++) {
+                bytes = bytes << 8 | text.charAt(i + j);
+            }
+            x.feed(bytes, n);
+            i += n;
         }
     }
 
     /** The answer of rule() to a text on an empty tape; the tape is empty then. */
-    static int rule(CommonBond x, String text, int from, int to) {
+    static int rule(Bond x, String text, int from, int to) {
         x.wipe();
         feed(x, text);
         int answer = x.rule(from, to);
@@ -48,7 +56,7 @@ final class Check {
         return answer;
     }
 
-    static int rule(CommonBond x, String text) {
+    static int rule(Bond x, String text) {
         return rule(x, text, 0, 1000);
     }
 

@@ -2,10 +2,11 @@ import java.util.ArrayList;
 import java.util.Arrays;
 import java.util.List;
 
-/** Many runs of 512 calls, each call on the class and on the model; the answers must be like. */
+/** Many runs of up to 512 calls, each call on the class and on the model; the answers must be like. */
 public final class FuzzTest {
-    private static final int RUNS = 1500;
-    private static final int CALLS = 512;
+    private static final int RUNS = 2500;
+    // So many are left for what is asked of twins at the end.
+    private static final int MOST_CALLS = Bond.MOST_CALLS - 32;
     private static final String[] NAMES = ("member member died save save save save save draw draw found found saved look "
         + "look ask ask ask ask back back askOf askOf answer answer pay pay pay pay loanOf dues taken alike says why "
         + "cost year got got voided runs runs calm best best judge judge fall fall duty duty counted suspects book wrong "
@@ -14,18 +15,21 @@ public final class FuzzTest {
         + "kind sum week cash if or and not ( ) + - * / % = < > 0 1 7 99999 100000 00001 x ; bonds").split(" ");
 
     private final Dice dice;
-    private final CommonBond x = new CommonBond();
+    private final Bond x = new Bond();
     private final Model model = new Model();
     private final List<String> told = new ArrayList<>();
+    private final int calls;
     private final int longRun;
     // Every other run has members who stand for one another, and none whose books go below 0.
     private final boolean entangled;
     // Every fifth one begins with as much of all as there may be.
     private final boolean full;
     private boolean like = true;
+    private Bond.Twins twins = null;
 
     private FuzzTest(long seed) {
         dice = new Dice(seed);
+        calls = dice.from(0, 3) > 0 ? MOST_CALLS : dice.from(20, MOST_CALLS);
         longRun = dice.from(1, 60);
         entangled = seed % 2 == 0;
         full = seed % 5 == 0;
@@ -53,7 +57,7 @@ public final class FuzzTest {
         for (int i = 0; i < members; i++) {
             same("member", dice.from(0, 9), dice.from(0, 9));
         }
-        for (int i = 0; i < CALLS && like; i++) {
+        while (x.size() < calls && like) {
             int kind = dice.from(0, 19);
             if (kind == 0) {
                 same("run", dice.from(0, 9) == 0 ? dice.from(-2, 70) : dice.from(1, longRun));
@@ -70,19 +74,38 @@ public final class FuzzTest {
         sweep();
     }
 
+    /** What the model answers; it costs the object no call. */
+    private int is(String name, int... a) {
+        return (int) model.call(name, a);
+    }
+
     private void same(String name, int... a) {
-        if (!like) {
+        if (!like || x.size() >= calls) {
             return;
         }
         long want = model.call(name, a);
-        long got = Calls.call(x, name, a);
+        long got = x.call(name, a);
         told.add(name + Arrays.toString(a) + " -> " + want);
+        compare(got, want);
+    }
+
+    private void compare(long got, long want) {
         if (got != want) {
             like = false;
             for (String line : told) {
                 System.out.println(line);
             }
             System.out.println("the class answered " + got + " to the last one");
+        }
+    }
+
+    /** Asked of a twin: it is no call of the object. */
+    private void twin(String name, int... a) {
+        if (like) {
+            long want = model.call(name, a);
+            told.add(name + Arrays.toString(a) + " of a twin -> " + want);
+            compare(twins.ask(name, a), want);
+            told.remove(told.size() - 1);
         }
     }
 
@@ -101,19 +124,19 @@ public final class FuzzTest {
     }
 
     private int member() {
-        return near(0, x.count(1) - 1);
+        return near(0, is("count", 1) - 1);
     }
 
     private int ask() {
-        return dice.from(0, 2) > 0 ? near(Math.max(0, x.count(5) - 4), x.count(5) - 1) : near(0, x.count(5) - 1);
+        return dice.from(0, 2) > 0 ? near(Math.max(0, is("count", 5) - 4), is("count", 5) - 1) : near(0, is("count", 5) - 1);
     }
 
     private int loan() {
-        return near(0, x.count(6) - 1);
+        return near(0, is("count", 6) - 1);
     }
 
     private int week() {
-        return near(0, x.count(0));
+        return near(0, is("count", 0));
     }
 
     private int much() {
@@ -127,24 +150,24 @@ public final class FuzzTest {
     private void lendTo() {
         same("save", member(), much());
         same("ask", 10 * member() + dice.from(0, 5), dice.from(1, 3000), dice.from(1, 12));
-        same("back", x.count(5) - 1, member(), dice.from(1, 3000));
-        same("back", x.count(5) - 1, member(), dice.from(1, 3000));
-        same("answer", x.count(5) - 1);
+        same("back", is("count", 5) - 1, member(), dice.from(1, 3000));
+        same("back", is("count", 5) - 1, member(), dice.from(1, 3000));
+        same("answer", is("count", 5) - 1);
     }
 
     /** Asks that wait, and runs that take about what there is. */
     private void plan() {
         int asks = dice.from(1, 5);
-        int cash = x.count(3);
+        int cash = is("count", 3);
         for (int i = 0; i < asks; i++) {
-            same("ask", 10 * dice.from(0, x.count(1) - 1) + dice.from(0, 2), dice.from(1, Math.max(1, cash / 2)),
+            same("ask", 10 * dice.from(0, is("count", 1) - 1) + dice.from(0, 2), dice.from(1, Math.max(1, cash / 2)),
                 dice.from(1, 9));
         }
         for (int i = dice.from(0, 3); i > 0; i--) {
             same("runs", dice.from(0, 3), dice.from(0, 7), dice.from(0, Math.min(99999, cash)));
         }
-        int first = Math.max(0, x.count(5) - 8);
-        same("best", ((1 << x.count(5) - first) - 1) << first);
+        int first = Math.max(0, is("count", 5) - 8);
+        same("best", ((1 << is("count", 5) - first) - 1) << first);
         judge();
     }
 
@@ -177,18 +200,18 @@ public final class FuzzTest {
 
     /** A member gets a loan on nearly all it saved, or one that another stands for with nearly all of its own. */
     private void entangle() {
-        int member = dice.from(0, x.count(1) - 1);
-        int other = dice.from(0, x.count(1) - 1);
-        int week = x.count(0);
-        if (x.saved(member, week, week) < 300) {
+        int member = dice.from(0, is("count", 1) - 1);
+        int other = dice.from(0, is("count", 1) - 1);
+        int week = is("count", 0);
+        if (is("saved", member, week, week) < 300) {
             same("save", member, dice.from(1, 900));
         }
         int secured = dice.from(0, 2);
-        int free = x.saved(secured > 0 ? member : other, week, week) - (secured > 0 ? x.look(member, 4) : 0);
+        int free = is("saved", secured > 0 ? member : other, week, week) - (secured > 0 ? is("look", member, 4) : 0);
         int sum = Math.max(1, Math.min(99999, free - dice.from(0, 9)));
         same("ask", 10 * member + (secured > 0 ? 2 : dice.from(0, 4)), sum, dice.from(1, 30));
-        same("back", x.count(5) - 1, other, Math.max(1, Math.min(99999, free)));
-        same("answer", x.count(5) - 1);
+        same("back", is("count", 5) - 1, other, Math.max(1, Math.min(99999, free)));
+        same("answer", is("count", 5) - 1);
         same("fall", member, dice.from(0, 2));
     }
 
@@ -205,13 +228,13 @@ public final class FuzzTest {
             case "found": found(); break;
             case "saved": same(name, member(), week(), week()); break;
             case "look": same(name, member(), near(0, 9)); break;
-            case "ask": same(name, near(0, 10 * x.count(1) - 1), much(), near(1, dice.from(0, 1) == 0 ? 60 : 6)); break;
+            case "ask": same(name, near(0, 10 * is("count", 1) - 1), much(), near(1, dice.from(0, 1) == 0 ? 60 : 6)); break;
             case "back": same(name, ask(), member(), much()); break;
             case "askOf": same(name, ask(), near(0, 9)); break;
             case "answer": same(name, ask()); break;
             case "pay": pay(); break;
             case "loanOf": same(name, loan(), near(0, 10)); break;
-            case "dues": same(name, loan(), dice.from(0, 3) == 0 ? near(0, 1000) : near(0, x.count(0) + 20)); break;
+            case "dues": same(name, loan(), dice.from(0, 3) == 0 ? near(0, 1000) : near(0, is("count", 0) + 20)); break;
             case "taken": same(name, loan(), near(0, 5)); break;
             case "alike": same(name, ask(), ask()); break;
             case "says": case "why": same(name, near(0, 5), who()); break;
@@ -222,8 +245,8 @@ public final class FuzzTest {
 
     private void two(String name) {
         switch (name) {
-            case "year": same(name, near(0, x.count(10) - 1), near(0, 6)); break;
-            case "got": same(name, near(0, x.count(10) - 1), member(), near(0, 5)); break;
+            case "year": same(name, near(0, is("count", 10) - 1), near(0, 6)); break;
+            case "got": same(name, near(0, is("count", 10) - 1), member(), near(0, 5)); break;
             case "runs": same(name, near(0, 3), near(0, 7), dice.from(0, 3) == 0 ? near(0, 99999) : near(0, 800)); break;
             case "calm": same(name, near(0, 3)); break;
             case "best": best(); break;
@@ -250,21 +273,21 @@ public final class FuzzTest {
 
     private void found() {
         int much = dice.from(0, 1) == 0 || entangled ? much() : -much();
-        same("found", member(), near(0, x.count(0) - 1), much);
+        same("found", member(), near(0, is("count", 0) - 1), much);
     }
 
     private int who() {
         switch (dice.from(0, 2)) {
             case 0: return near(-1, 15);
-            case 1: return near(100, 100 + x.count(5) - 1);
+            case 1: return near(100, 100 + is("count", 5) - 1);
             default: return member();
         }
     }
 
     private void pay() {
         int loan = loan();
-        if (loan >= 0 && loan < x.count(6) && dice.from(0, 2) > 0) {
-            int owed = x.loanOf(loan, 5);
+        if (loan >= 0 && loan < is("count", 6) && dice.from(0, 2) > 0) {
+            int owed = is("loanOf", loan, 5);
             same("pay", loan, dice.from(0, 4) == 0 ? owed : near(1, Math.max(1, owed)));
         } else {
             same("pay", loan, much());
@@ -273,7 +296,7 @@ public final class FuzzTest {
 
     private void best() {
         int bits = 0;
-        int size = x.count(5);
+        int size = is("count", 5);
         for (int i = 0; i < 8 && size > 0; i++) {
             bits |= 1 << dice.from(0, size - 1);
         }
@@ -290,7 +313,7 @@ public final class FuzzTest {
     }
 
     private void counted() {
-        int cash = x.count(3);
+        int cash = is("count", 3);
         same("counted", dice.from(0, 1) == 0 ? cash : near(0, 9999999));
     }
 
@@ -298,8 +321,8 @@ public final class FuzzTest {
         int member = member();
         int week = week();
         int much = near(-9999999, 9999999);
-        if (member >= 0 && member < x.count(1) && week >= 0 && week <= x.count(0) && dice.from(0, 1) == 0) {
-            much = x.saved(member, week, x.count(0));
+        if (member >= 0 && member < is("count", 1) && week >= 0 && week <= is("count", 0) && dice.from(0, 1) == 0) {
+            much = is("saved", member, week, is("count", 0));
         }
         same("book", member, week, much);
     }
@@ -358,38 +381,42 @@ public final class FuzzTest {
 
     /** At the end all that can be asked. */
     private void sweep() {
+        if (!like) {
+            return;
+        }
+        twins = x.twins();
         for (int i = 0; i < 16; i++) {
-            same("count", i);
+            twin("count", i);
         }
         for (int i = -8; i <= -2; i++) {
-            same("status", i);
+            twin("status", i);
         }
-        for (int m = 0; m < x.count(1); m++) {
+        for (int m = 0; m < is("count", 1); m++) {
             for (int what = 0; what < 10; what++) {
-                same("look", m, what);
+                twin("look", m, what);
             }
             for (int what = 0; what < 3; what++) {
-                same("fall", m, what);
+                twin("fall", m, what);
             }
-            for (int y = 0; y < x.count(10); y++) {
+            for (int y = 0; y < is("count", 10); y++) {
                 for (int what = 0; what < 6; what++) {
-                    same("got", y, m, what);
+                    twin("got", y, m, what);
                 }
             }
         }
-        for (int a = 0; a < x.count(5); a++) {
+        for (int a = 0; a < is("count", 5); a++) {
             for (int what = 0; what < 10; what++) {
-                same("askOf", a, what);
+                twin("askOf", a, what);
             }
         }
-        for (int l = 0; l < x.count(6); l++) {
+        for (int l = 0; l < is("count", 6); l++) {
             for (int what = 0; what < 11; what++) {
-                same("loanOf", l, what);
+                twin("loanOf", l, what);
             }
         }
-        for (int y = 0; y < x.count(10); y++) {
+        for (int y = 0; y < is("count", 10); y++) {
             for (int what = 0; what < 7; what++) {
-                same("year", y, what);
+                twin("year", y, what);
             }
         }
     }

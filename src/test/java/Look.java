@@ -1,100 +1,168 @@
-/** All that can be asked of an object by calls that are not refused. */
+/** All that can be asked of an object, by its twins. */
 final class Look {
-    private Look() {
+    private static final int BYTES_OF_THE_TAPE = 9;
+
+    private final Bond.Twins twins;
+    private long[] all = new long[1024];
+    private int size = 0;
+
+    private Look(Bond x) {
+        twins = x.twins();
     }
 
-    static int[] status(CommonBond x) {
+    static int[] status(Bond x) {
+        Look look = new Look(x);
         int[] all = new int[7];
         for (int i = 0; i < 7; i++) {
-            all[i] = x.status(-(i + 2));
+            all[i] = look.is("status", -(i + 2));
         }
         return all;
     }
 
-    static long[] all(CommonBond x) {
-        Out out = new Out();
-        for (int i = 0; i < 16; i++) {
-            out.put(x.count(i));
-        }
-        members(x, out);
-        asks(x, out);
-        loans(x, out);
-        rest(x, out);
-        return java.util.Arrays.copyOf(out.all, out.size);
+    /** All but status(). */
+    static long[] all(Bond x) {
+        Look look = new Look(x);
+        look.kept();
+        look.notKept();
+        return java.util.Arrays.copyOf(look.all, look.size);
     }
 
-    private static void members(CommonBond x, Out out) {
-        int week = x.count(0);
-        for (int m = 0; m < x.count(1); m++) {
+    /** All that an image keeps. */
+    static long[] kept(Bond x) {
+        Look look = new Look(x);
+        look.kept();
+        return java.util.Arrays.copyOf(look.all, look.size);
+    }
+
+    private void kept() {
+        counts();
+        members();
+        asks();
+        loans();
+        years();
+        keys();
+        changing();
+    }
+
+    private int is(String name, int... args) {
+        return (int) twins.ask(name, args);
+    }
+
+    private void put(String name, int... args) {
+        if (size == all.length) {
+            all = java.util.Arrays.copyOf(all, 2 * size);
+        }
+        all[size] = twins.ask(name, args);
+        size++;
+    }
+
+    private void members() {
+        int week = is("count", 0);
+        for (int m = 0; m < is("count", 1); m++) {
             for (int what = 0; what < 10; what++) {
-                out.put(x.look(m, what));
+                put("look", m, what);
             }
             for (int w = Math.max(0, week - 60); w <= week; w++) {
-                out.put(x.saved(m, w, week));
-                out.put(x.saved(m, week, w));
+                put("saved", m, w, week);
+                put("saved", m, week, w);
             }
             for (int key = 0; key < 6; key++) {
-                out.put(x.says(key, m));
-                out.put(x.why(key, m));
+                put("says", key, m);
+                put("why", key, m);
             }
             for (int what = 0; what < 3; what++) {
-                out.put(x.fall(m, what));
+                put("fall", m, what);
             }
         }
     }
 
-    private static void asks(CommonBond x, Out out) {
-        for (int a = 0; a < x.count(5); a++) {
+    private void asks() {
+        int asks = is("count", 5);
+        for (int a = 0; a < asks; a++) {
             for (int what = 0; what < 10; what++) {
-                out.put(x.askOf(a, what));
+                put("askOf", a, what);
             }
             for (int b = 0; b < a; b++) {
-                out.put(x.alike(a, b));
+                put("alike", a, b);
             }
-            out.put(x.best(1 << a));
+            put("best", 1 << a);
         }
-        out.put(x.best((1 << Math.min(8, x.count(5))) - 1));
+        put("best", (1 << Math.min(8, asks)) - 1);
     }
 
-    private static void loans(CommonBond x, Out out) {
-        for (int l = 0; l < x.count(6); l++) {
+    private void loans() {
+        int week = is("count", 0);
+        for (int l = 0; l < is("count", 6); l++) {
             for (int what = 0; what < 11; what++) {
-                out.put(x.loanOf(l, what));
+                put("loanOf", l, what);
             }
-            out.put(x.dues(l, x.count(0)));
-            out.put(x.dues(l, x.count(0) + 1));
+            put("dues", l, week);
+            put("dues", l, week + 1);
         }
     }
 
-    private static void rest(CommonBond x, Out out) {
-        for (int y = 0; y < x.count(10); y++) {
+    private void years() {
+        for (int y = 0; y < is("count", 10); y++) {
             for (int what = 0; what < 7; what++) {
-                out.put(x.year(y, what));
+                put("year", y, what);
             }
-            for (int m = 0; m < x.count(1); m++) {
+            for (int m = 0; m < is("count", 1); m++) {
                 for (int what = 0; what < 6; what++) {
-                    out.put(x.got(y, m, what));
+                    put("got", y, m, what);
                 }
             }
         }
-        for (int key = 0; key < 6; key++) {
-            out.put(x.says(key, -1));
-            out.put(x.why(key, -1));
-        }
-        out.put(x.suspects());
-        out.put(x.wrong());
     }
 
-    private static final class Out {
-        long[] all = new long[1024];
-        int size = 0;
-
-        void put(long answer) {
-            if (size == all.length) {
-                all = java.util.Arrays.copyOf(all, 2 * size);
-            }
-            all[size] = answer;
-            size++;
+    private void keys() {
+        for (int key = 0; key < 6; key++) {
+            put("says", key, -1);
+            put("why", key, -1);
         }
+        put("suspects");
+        put("wrong");
+    }
+
+    private void counts() {
+        for (int what = 0; what < 16; what++) {
+            if (what != BYTES_OF_THE_TAPE) {
+                put("count", what);
+            }
+        }
+    }
+
+    /** What is told only by calls that change what they tell: each sort of them has a twin of its own. */
+    private void changing() {
+        twins.fresh();
+        for (int run = 0; run < 4; run++) {
+            for (int w = 0; w < 8; w++) {
+                put("runs", run, w, 0);
+            }
+        }
+        twins.fresh();
+        for (int run = 0; run < 4; run++) {
+            put("calm", run);
+        }
+        put("duty", 0);
+        twins.fresh();
+    }
+
+    private void notKept() {
+        put("count", BYTES_OF_THE_TAPE);
+        put("judge");
+        for (int i = 0; i < 12; i++) {
+            put("row", i);
+        }
+        put("tear");
+        put("rule", 0, 1);
+        for (int what = 0; what < 16; what++) {
+            // One twin for both, so that none comes between that is not at its image again.
+            twins.fresh();
+            is("undo");
+            put("count", what);
+        }
+        twins.fresh();
+        put("undo");
+        twins.fresh();
     }
 }

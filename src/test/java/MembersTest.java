@@ -16,7 +16,7 @@ public final class MembersTest {
     }
 
     private static void member() {
-        CommonBond x = new CommonBond();
+        Bond x = new Bond();
         C.due("the first", x.member(0, 0), 0);
         C.due("the second", x.member(9, 9), 1);
         C.refused("work -1", x, () -> x.member(-1, 0), -7, -7);
@@ -34,7 +34,7 @@ public final class MembersTest {
     }
 
     private static void died() {
-        CommonBond x = new CommonBond();
+        Bond x = new Bond();
         x.member(1, 1);
         C.refused("no member", x, () -> x.died(1, 0), 0, -3);
         C.refused("member -1", x, () -> x.died(-1, 0), 0, -3);
@@ -58,7 +58,7 @@ public final class MembersTest {
     }
 
     private static void save() {
-        CommonBond x = new CommonBond();
+        Bond x = new Bond();
         x.member(1, 1);
         x.member(2, 2);
         C.due("the least", x.save(0, 1), 1);
@@ -81,7 +81,7 @@ public final class MembersTest {
     }
 
     private static void draw() {
-        CommonBond x = new CommonBond();
+        Bond x = new Bond();
         x.member(1, 1);
         x.member(2, 2);
         x.save(0, 100);
@@ -112,7 +112,7 @@ public final class MembersTest {
     }
 
     private static long entryOfNothing() {
-        CommonBond x = new CommonBond();
+        Bond x = new Bond();
         x.member(1, 1);
         x.save(0, 5);
         x.draw(0, 5);
@@ -120,7 +120,7 @@ public final class MembersTest {
     }
 
     private static void found() {
-        CommonBond x = new CommonBond();
+        Bond x = new Bond();
         x.member(1, 1);
         x.save(0, 100);
         C.refused("no week ahead of the first", x, () -> x.found(0, 0, 5), -3, -3);
@@ -153,7 +153,7 @@ public final class MembersTest {
     }
 
     private static void saved() {
-        CommonBond x = new CommonBond();
+        Bond x = new Bond();
         x.member(1, 1);
         x.save(0, 100);
         x.run(2);
@@ -175,7 +175,7 @@ public final class MembersTest {
     }
 
     private static void look() {
-        CommonBond x = new CommonBond();
+        Bond x = new Bond();
         x.member(3, 4);
         x.save(0, 1000);
         x.run(2);
@@ -219,7 +219,7 @@ public final class MembersTest {
     }
 
     private static void dormant() {
-        CommonBond x = new CommonBond();
+        Bond x = new Bond();
         x.member(1, 1);
         x.member(2, 2);
         x.run(3);
@@ -248,7 +248,7 @@ public final class MembersTest {
     }
 
     private static void entriesAreFull() {
-        CommonBond x = new CommonBond();
+        Bond x = new Bond();
         for (int i = 0; i < 15; i++) {
             x.member(i % 10, 0);
         }

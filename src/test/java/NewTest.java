@@ -2,7 +2,7 @@
 public final class NewTest {
     public static void main(String[] args) {
         Check c = new Check("NewTest");
-        CommonBond x = new CommonBond();
+        Bond x = new Bond();
         for (int i = 0; i < 16; i++) {
             c.due("count(" + i + ")", x.count(i), 0);
         }

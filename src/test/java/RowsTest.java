@@ -12,8 +12,8 @@ public final class RowsTest {
         C.end();
     }
 
-    private static CommonBond laid(int... numbers) {
-        CommonBond x = new CommonBond();
+    private static Bond laid(int... numbers) {
+        Bond x = new Bond();
         x.lay(numbers.length);
         for (int i = 0; i < numbers.length; i++) {
             x.set(i, numbers[i]);
@@ -21,14 +21,14 @@ public final class RowsTest {
         return x;
     }
 
-    private static void due(String what, CommonBond x, int... numbers) {
+    private static void due(String what, Bond x, int... numbers) {
         for (int i = 0; i < numbers.length; i++) {
             C.due(what + ", number " + i, x.row(i), numbers[i]);
         }
     }
 
     private static void lay() {
-        CommonBond x = new CommonBond();
+        Bond x = new Bond();
         C.refused("-1", x, () -> x.lay(-1), -4, -4);
         C.refused("13", x, () -> x.lay(13), -7, -7);
         C.refused("far below", x, () -> x.lay(Integer.MIN_VALUE), -4, -4);
@@ -47,7 +47,7 @@ public final class RowsTest {
     }
 
     private static void set() {
-        CommonBond x = new CommonBond();
+        Bond x = new Bond();
         C.refused("missing", x, () -> x.set(0, 1), 0, -2);
         C.refused("MISSING ahead of BEYOND", x, () -> x.set(-1, 1), 0, -2);
         x.lay(2);
@@ -62,7 +62,7 @@ public final class RowsTest {
     }
 
     private static void tear() {
-        CommonBond x = new CommonBond();
+        Bond x = new Bond();
         C.due("missing at first", x.tear(), 0);
         x.lay(1);
         x.set(0, 4);
@@ -74,7 +74,7 @@ public final class RowsTest {
     }
 
     private static void row() {
-        CommonBond x = new CommonBond();
+        Bond x = new Bond();
         C.refused("missing", x, () -> x.row(0), 0, -2);
         C.refused("MISSING ahead of BEYOND", x, () -> x.row(12), 0, -2);
         x.lay(2);
@@ -85,10 +85,10 @@ public final class RowsTest {
     }
 
     private static void copy() {
-        CommonBond x = new CommonBond();
+        Bond x = new Bond();
         C.refused("missing", x, () -> x.copy(0, 0, 0), -2, -2);
         C.refused("MISSING ahead of BELOW", x, () -> x.copy(0, 0, -1), -2, -2);
-        CommonBond y = laid(1, 2, 3, 4, 5);
+        Bond y = laid(1, 2, 3, 4, 5);
         C.due("to the right, over itself", y.copy(0, 1, 4), 4);
         due("as they were", y, 1, 1, 2, 3, 4);
         C.due("to the left, over itself", y.copy(2, 0, 3), 3);
@@ -113,7 +113,7 @@ public final class RowsTest {
     }
 
     private static void status() {
-        CommonBond x = new CommonBond();
+        Bond x = new Bond();
         x.undo();
         x.save(0, 1);
         x.saved(0, 0, 0);

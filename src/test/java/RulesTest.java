@@ -14,14 +14,14 @@ public final class RulesTest {
         C.end();
     }
 
-    private static CommonBond one() {
-        CommonBond x = new CommonBond();
+    private static Bond one() {
+        Bond x = new Bond();
         x.member(1, 2);
         return x;
     }
 
     private static void feed() {
-        CommonBond x = one();
+        Bond x = one();
         C.due("none", x.feed(12345, 0), 0);
         // "rate" and of "xx7 " the two lowest.
         C.due("four bytes, the highest first", x.feed(0x72617465, 4), 4);
@@ -48,7 +48,7 @@ public final class RulesTest {
     }
 
     private static void rule() {
-        CommonBond x = one();
+        Bond x = one();
         Check.feed(x, "rate 20");
         C.refused("from like to", x, () -> x.rule(5, 5), -7, -7);
         C.refused("from behind to", x, () -> x.rule(6, 5), -7, -7);
@@ -75,7 +75,7 @@ public final class RulesTest {
     }
 
     private static void fault(String text, int place) {
-        CommonBond x = one();
+        Bond x = one();
         Check.feed(x, text);
         long[] before = Look.all(x);
         C.due("fault of '" + text + "'", x.rule(0, 10), -10 - place);
@@ -176,7 +176,7 @@ public final class RulesTest {
     }
 
     private static void value(String text, int want) {
-        CommonBond x = one();
+        Bond x = one();
         C.due("read '" + text + "'", Check.rule(x, "limit " + text), 0);
         C.due("value of '" + text + "'", x.says(1, -1), want);
     }
@@ -230,13 +230,13 @@ public final class RulesTest {
         value("00012", 12);
     }
 
-    private static void name(CommonBond x, String text, int who, int want) {
+    private static void name(Bond x, String text, int who, int want) {
         C.so("read", Check.rule(x, "limit " + text, x.count(0), x.count(0) + 1) >= 0);
         C.due(text + " of " + who, x.says(1, who), want);
     }
 
     private static void names() {
-        CommonBond x = new CommonBond();
+        Bond x = new Bond();
         x.member(0, 0);
         x.run(3);
         x.member(7, 8);
@@ -263,7 +263,7 @@ public final class RulesTest {
     }
 
     private static void says() {
-        CommonBond x = one();
+        Bond x = one();
         int[] first = {1, 5000, 10, 20, 50, 0};
         for (int key = 0; key < 6; key++) {
             C.due("without a rule", x.says(key, 0), first[key]);
@@ -295,7 +295,7 @@ public final class RulesTest {
     }
 
     private static void force() {
-        CommonBond x = one();
+        Bond x = one();
         C.due("always", Check.rule(x, "rate 1", 0, 1000), 0);
         C.due("in weeks 2 and 3", Check.rule(x, "rate 2", 2, 4), 1);
         C.due("in week 3, if", Check.rule(x, "rate 3 if work = 1", 3, 4), 2);

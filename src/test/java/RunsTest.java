@@ -16,8 +16,8 @@ public final class RunsTest {
         C.end();
     }
 
-    private static CommonBond two(int saved) {
-        CommonBond x = new CommonBond();
+    private static Bond two(int saved) {
+        Bond x = new Bond();
         x.member(1, 1);
         x.member(2, 2);
         x.save(0, saved);
@@ -25,7 +25,7 @@ public final class RunsTest {
     }
 
     private static void runs() {
-        CommonBond x = two(100);
+        Bond x = two(100);
         for (int run = 0; run < 4; run++) {
             for (int w = 0; w < 8; w++) {
                 C.due("0 at first", x.runs(run, w, 10 * run + w), 0);
@@ -44,13 +44,13 @@ public final class RunsTest {
         C.refused("-1", x, () -> x.runs(0, 0, -1), 0, -7);
         C.refused("100000", x, () -> x.runs(0, 0, 100000), 0, -7);
         C.refused("BEYOND ahead of NO", x, () -> x.runs(4, 0, -1), 0, -3);
-        CommonBond y = two(100);
+        Bond y = two(100);
         y.runs(2, 0, -1);
         C.due("a refused one is not told", y.calm(2), 0);
     }
 
     private static void calm() {
-        CommonBond x = two(100);
+        Bond x = two(100);
         C.due("not told", x.calm(0), 0);
         x.runs(0, 3, 0);
         C.due("told, of nothing", x.calm(0), 1);
@@ -65,14 +65,14 @@ public final class RunsTest {
     }
 
     /** Whether the ask alone lasts. */
-    private static long alone(CommonBond x, int ask) {
+    private static long alone(Bond x, int ask) {
         x.lay(1);
         x.set(0, ask);
         return x.judge();
     }
 
     private static void lasts() {
-        CommonBond x = two(1000);
+        Bond x = two(1000);
         x.ask(0, 1000, 4);
         x.ask(0, 1001, 4);
         x.ask(3, 600, 3);
@@ -109,7 +109,7 @@ public final class RunsTest {
     }
 
     private static void bridge() {
-        CommonBond x = two(1000);
+        Bond x = two(1000);
         x.save(1, 1000);
         x.ask(4, 2000, 3);
         x.back(0, 1, 1000);
@@ -136,7 +136,7 @@ public final class RunsTest {
     }
 
     private static void lastsWithLoans() {
-        CommonBond x = two(1000);
+        Bond x = two(1000);
         x.ask(10, 800, 4);
         x.answer(0);
         x.run(1);
@@ -156,7 +156,7 @@ public final class RunsTest {
         C.due("of open ones alone", alone(x, 1), 1);
         x.runs(0, 3, 1004);
         C.due("a paid one brings nothing", alone(x, 1), 0);
-        CommonBond y = two(1000);
+        Bond y = two(1000);
         y.ask(10, 800, 20);
         y.answer(0);
         y.run(1);
@@ -171,7 +171,7 @@ public final class RunsTest {
     }
 
     private static void best() {
-        CommonBond x = two(1000);
+        Bond x = two(1000);
         C.due("of none", x.best(0), 0);
         C.refused("no ask", x, () -> x.best(1), -7, -7);
         x.ask(0, 600, 4);
@@ -198,7 +198,7 @@ public final class RunsTest {
     }
 
     private static void bestOfLike() {
-        CommonBond x = two(100);
+        Bond x = two(100);
         x.ask(0, 50, 4);
         x.ask(0, 60, 4);
         x.ask(0, 40, 4);
@@ -209,13 +209,13 @@ public final class RunsTest {
         C.due("of like ones the least that differs", x.best(31), 9);
         C.due("0 and 3 rather than 1 and 2", x.best(0b01111), 0b01001);
         C.due("1 and 2 rather than 2 and 4", x.best(0b10110), 0b00110);
-        CommonBond y = two(100);
+        Bond y = two(100);
         y.ask(0, 30, 4);
         y.ask(0, 20, 4);
         y.ask(0, 70, 4);
         y.ask(0, 80, 4);
         C.due("0 and 2 rather than 1 and 3", y.best(15), 5);
-        CommonBond z = two(100);
+        Bond z = two(100);
         z.ask(0, 60, 4);
         z.ask(0, 61, 4);
         C.due("1 more is greater", z.best(3), 2);
@@ -223,7 +223,7 @@ public final class RunsTest {
     }
 
     private static void bestThroughRuns() {
-        CommonBond x = two(1000);
+        Bond x = two(1000);
         x.ask(10, 400, 4);
         x.answer(0);
         x.run(1);
@@ -252,7 +252,7 @@ public final class RunsTest {
     }
 
     private static void mayNotBe() {
-        CommonBond x = two(1000);
+        Bond x = two(1000);
         x.ask(0, 300, 4);
         x.ask(0, 5001, 4);
         x.ask(3, 300, 4);
@@ -279,7 +279,7 @@ public final class RunsTest {
     }
 
     private static void judge() {
-        CommonBond x = two(1000);
+        Bond x = two(1000);
         C.refused("missing", x, () -> x.judge(), -2, -2);
         x.lay(0);
         C.due("the empty set", x.judge(), 1);
@@ -306,7 +306,7 @@ public final class RunsTest {
     }
 
     private static void fall() {
-        CommonBond x = two(1000);
+        Bond x = two(1000);
         x.save(1, 200);
         x.member(3, 3);
         x.save(2, 100);
@@ -338,7 +338,7 @@ public final class RunsTest {
     }
 
     private static void fallInRounds() {
-        CommonBond x = new CommonBond();
+        Bond x = new Bond();
         for (int i = 0; i < 5; i++) {
             x.member(i, i);
         }
@@ -377,7 +377,7 @@ public final class RunsTest {
     }
 
     /** Lent without interest. */
-    private static void lend(CommonBond x, int of, int sum, int backer, int pledge) {
+    private static void lend(Bond x, int of, int sum, int backer, int pledge) {
         Check.rule(x, "rate 0", 0, 1);
         int ask = x.ask(of, sum, 5);
         if (backer >= 0) {

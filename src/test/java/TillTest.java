@@ -16,8 +16,8 @@ public final class TillTest {
         C.end();
     }
 
-    private static CommonBond three() {
-        CommonBond x = new CommonBond();
+    private static Bond three() {
+        Bond x = new Bond();
         x.member(1, 1);
         x.member(2, 2);
         x.member(3, 3);
@@ -25,7 +25,7 @@ public final class TillTest {
     }
 
     private static void duty() {
-        CommonBond x = three();
+        Bond x = three();
         C.due("none at first", x.duty(2), -1);
         C.due("who was told ahead", x.duty(0), 2);
         C.due("again", x.duty(0), 0);
@@ -46,7 +46,7 @@ public final class TillTest {
     }
 
     private static void counted() {
-        CommonBond x = three();
+        Bond x = three();
         C.due("nothing", x.counted(0), 0);
         x.save(0, 500);
         C.due("short", x.counted(480), 20);
@@ -64,7 +64,7 @@ public final class TillTest {
     }
 
     private static void suspects() {
-        CommonBond x = three();
+        Bond x = three();
         x.save(0, 500);
         C.due("nothing is counted", x.suspects(), -1);
         x.duty(2);
@@ -87,7 +87,7 @@ public final class TillTest {
         x.duty(2);
         x.counted(480);
         C.due("the first one alone", x.suspects(), 0b011);
-        CommonBond y = three();
+        Bond y = three();
         y.duty(1);
         y.run(1);
         y.duty(0);
@@ -96,12 +96,12 @@ public final class TillTest {
         C.due("from 0 on", y.suspects(), 0b011);
         y.duty(2);
         C.due("up to its own", y.suspects(), 0b111);
-        CommonBond z = three();
+        Bond z = three();
         z.duty(0);
         z.counted(0);
         z.counted(7);
         C.due("in the week of the one ahead: no week is left", z.suspects(), 0);
-        CommonBond w = three();
+        Bond w = three();
         w.save(0, 10);
         w.counted(9);
         w.duty(0);
@@ -109,14 +109,14 @@ public final class TillTest {
         w.duty(1);
         w.counted(9);
         C.due("short from the first on", w.suspects(), 1);
-        CommonBond v = three();
+        Bond v = three();
         v.run(3);
         v.counted(5);
         C.due("nobody was on duty", v.suspects(), 0);
     }
 
     private static void book() {
-        CommonBond x = three();
+        Bond x = three();
         x.run(4);
         C.due("the first", x.book(0, 0, 9999999), 1);
         C.due("the open week", x.book(2, 4, -9999999), 2);
@@ -136,7 +136,7 @@ public final class TillTest {
     }
 
     private static void wrong() {
-        CommonBond x = three();
+        Bond x = three();
         C.due("none", x.wrong(), 0);
         x.save(0, 100);
         x.book(0, 0, 100);
@@ -159,7 +159,7 @@ public final class TillTest {
     }
 
     private static void count() {
-        CommonBond x = three();
+        Bond x = three();
         x.save(0, 4000);
         x.save(1, 500);
         x.ask(20, 1000, 10);
@@ -185,7 +185,7 @@ public final class TillTest {
         }
         C.refused("what -1", x, () -> x.count(-1), 0, -7);
         C.refused("what 16", x, () -> x.count(16), 0, -7);
-        CommonBond y = three();
+        Bond y = three();
         y.save(0, 4000);
         y.ask(0, 1000, 10);
         y.ask(1, 500, 10);
@@ -200,7 +200,7 @@ public final class TillTest {
     }
 
     private static void image() {
-        CommonBond x = three();
+        Bond x = three();
         C.refused("none is kept", x, () -> x.undo(), -2, -2);
         x.run(3);
         C.due("the open week", x.image(), 3);
@@ -216,12 +216,12 @@ public final class TillTest {
     }
 
     private static void imageOfAll() {
-        CommonBond x = three();
+        Bond x = three();
         grow(x);
         Check.feed(x, "div 3");
         x.lay(3);
         x.set(1, 5);
-        long[] kept = Look.all(x);
+        long[] kept = Look.kept(x);
         x.image();
         Check.rule(x, "limit 4");
         x.lay(2);
@@ -243,7 +243,7 @@ public final class TillTest {
         C.due("status stays", x.status(-3), refusals + 1);
         x.wipe();
         Check.feed(x, "div 3");
-        C.so("all else is as it was", java.util.Arrays.equals(kept, Look.all(x)));
+        C.so("all else is as it was", java.util.Arrays.equals(kept, Look.kept(x)));
         C.due("a run", x.runs(0, 0, 0), 0);
         C.due("a run that was told", x.runs(1, 2, 0), 3);
         C.due("who was on duty", x.duty(1), -1);
@@ -253,7 +253,7 @@ public final class TillTest {
 
     /** What stood in a place ahead of undo() is not there in what comes into it then. */
     private static void undoneAndDoneAgain() {
-        CommonBond x = three();
+        Bond x = three();
         x.save(0, 1000);
         x.save(1, 30);
         x.save(2, 5000);
@@ -293,13 +293,13 @@ public final class TillTest {
         C.due("earned", x.got(0, 0, 3), 10);
     }
 
-    private static long entriesBehind(CommonBond x) {
+    private static long entriesBehind(Bond x) {
         x.died(0, 0);
         return x.look(0, 9);
     }
 
     private static void imageOfMost() {
-        CommonBond x = new CommonBond();
+        Bond x = new Bond();
         for (int i = 0; i < 16; i++) {
             x.member(i % 10, 1);
             x.save(i, 9000);
@@ -321,17 +321,17 @@ public final class TillTest {
         x.lay(0);
         C.due("the empty set", x.judge(), 1);
         C.due("all fall", x.fall(15, 0), 1 << 15);
-        long[] kept = Look.all(x);
+        long[] kept = Look.kept(x);
         C.due("image", x.image(), 0);
         x.run(60);
         C.due("all failed", x.count(7), 0);
         C.due("undo", x.undo(), 0);
-        C.so("all is as it was", java.util.Arrays.equals(kept, Look.all(x)));
+        C.so("all is as it was", java.util.Arrays.equals(kept, Look.kept(x)));
         C.due("rules", x.count(8), 12);
         C.due("books", x.wrong(), 0xAAAAA);
     }
 
-    private static void grow(CommonBond x) {
+    private static void grow(Bond x) {
         x.save(0, 3000);
         x.save(1, 2000);
         int ask = x.ask(2, 300, 5);

@@ -17,15 +17,15 @@ public final class WeeksTest {
         C.end();
     }
 
-    private static CommonBond two() {
-        CommonBond x = new CommonBond();
+    private static Bond two() {
+        Bond x = new Bond();
         x.member(1, 1);
         x.member(2, 2);
         return x;
     }
 
     private static void run() {
-        CommonBond x = two();
+        Bond x = two();
         C.due("one", x.run(1), 0);
         C.due("the open one", x.count(0), 1);
         C.refused("0", x, () -> x.run(0), -7, -7);
@@ -47,7 +47,7 @@ public final class WeeksTest {
     }
 
     private static void cost() {
-        CommonBond x = two();
+        Bond x = two();
         x.save(0, 1000);
         C.due("the least", x.cost(1), 999);
         C.due("the reserve", x.count(4), -1);
@@ -63,8 +63,8 @@ public final class WeeksTest {
     }
 
     /** Member 0 saves 3000, member 1 1000; member 1 is lent 1000 for 10 weeks at a rate and pays it all. */
-    private static CommonBond earning(int rate) {
-        CommonBond x = two();
+    private static Bond earning(int rate) {
+        Bond x = two();
         Check.rule(x, "rate " + rate);
         x.save(0, 3000);
         x.save(1, 1000);
@@ -75,7 +75,7 @@ public final class WeeksTest {
     }
 
     private static void surplus() {
-        CommonBond x = earning(97);
+        Bond x = earning(97);
         C.refused("no year yet", x, () -> x.year(0, 0), 0, -3);
         C.refused("nor of a member", x, () -> x.got(0, 0, 0), 0, -3);
         x.run(51);
@@ -119,7 +119,7 @@ public final class WeeksTest {
     }
 
     private static void bounds() {
-        CommonBond x = earning(97);
+        Bond x = earning(97);
         Check.rule(x, "reserve 101");
         Check.rule(x, "div 5");
         x.run(52);
@@ -127,21 +127,21 @@ public final class WeeksTest {
         C.due("no dividend", x.year(0, 4), 0);
         C.due("no rebate", x.year(0, 5), 0);
         C.due("no entries", x.count(2), 2);
-        CommonBond y = earning(97);
+        Bond y = earning(97);
         Check.rule(y, "reserve 0 - week");
         Check.rule(y, "div 100 + week");
         y.run(52);
         C.due("nothing to the reserve", y.year(0, 3), 0);
         C.due("all is dividend", y.year(0, 4), 97);
         C.due("no rebate", y.year(0, 5), 0);
-        CommonBond z = earning(97);
+        Bond z = earning(97);
         Check.rule(z, "reserve week");
         Check.rule(z, "div cash / 100");
         z.run(52);
         C.due("51 hundredths, of the week that closes", z.year(0, 3), 49);
         C.due("40 hundredths of 48", z.year(0, 4), 19);
         C.due("the rest", z.year(0, 5), 29);
-        CommonBond w = earning(97);
+        Bond w = earning(97);
         Check.rule(w, "div 0 - 1");
         w.run(52);
         C.due("0 at least", w.year(0, 4), 0);
@@ -149,7 +149,7 @@ public final class WeeksTest {
     }
 
     private static void rests() {
-        CommonBond x = new CommonBond();
+        Bond x = new Bond();
         for (int i = 0; i < 4; i++) {
             x.member(i, 0);
         }
@@ -169,7 +169,7 @@ public final class WeeksTest {
         for (int i = 0; i < 4; i++) {
             C.due("dividend of " + i, x.got(0, i, 0), due[i]);
         }
-        CommonBond y = new CommonBond();
+        Bond y = new Bond();
         for (int i = 0; i < 4; i++) {
             y.member(i, 0);
             y.save(i, i == 2 ? 2000 : 1000);
@@ -188,7 +188,7 @@ public final class WeeksTest {
     }
 
     private static void withoutParts() {
-        CommonBond x = new CommonBond();
+        Bond x = new Bond();
         x.member(1, 1);
         x.save(0, 1000);
         x.ask(0, 1000, 10);
@@ -204,7 +204,7 @@ public final class WeeksTest {
         C.due("the dividend comes to the reserve", x.count(4), 6);
         C.due("nobody would get it", x.got(0, 0, 5), 0);
         C.due("saved", x.saved(0, 52, 52), 4);
-        CommonBond y = two();
+        Bond y = two();
         y.run(52);
         C.due("a year of nothing", y.year(0, 2), 0);
         C.due("reserve", y.count(4), 0);
@@ -212,7 +212,7 @@ public final class WeeksTest {
     }
 
     private static void earnedOnce() {
-        CommonBond x = two();
+        Bond x = two();
         x.save(0, 5000);
         Check.rule(x, "rate 100");
         x.ask(10, 1000, 60);
@@ -248,7 +248,7 @@ public final class WeeksTest {
     }
 
     private static void lostYear() {
-        CommonBond y = two();
+        Bond y = two();
         y.save(0, 2000);
         y.cost(5);
         y.run(38);
@@ -263,7 +263,7 @@ public final class WeeksTest {
         }
         C.due("the reserve is less by it", y.count(4), -1006);
         C.due("no one gets a thing", y.count(2), 1);
-        CommonBond z = two();
+        Bond z = two();
         z.save(0, 2000);
         z.run(39);
         z.ask(10, 1000, 1);
@@ -276,7 +276,7 @@ public final class WeeksTest {
     }
 
     private static void shareWeeks() {
-        CommonBond x = two();
+        Bond x = two();
         x.save(0, 100);
         x.save(1, 1000);
         x.run(10);
@@ -305,7 +305,7 @@ public final class WeeksTest {
     }
 
     private static void failed() {
-        CommonBond x = two();
+        Bond x = two();
         x.save(0, 1000);
         x.ask(0, 500, 1);
         x.answer(0);
@@ -316,7 +316,7 @@ public final class WeeksTest {
     }
 
     private static void reworked() {
-        CommonBond x = earning(97);
+        Bond x = earning(97);
         x.run(52);
         C.due("as it was", x.got(0, 1, 5), 10);
         x.found(1, 0, 2000);
@@ -334,7 +334,7 @@ public final class WeeksTest {
         x.found(2, 0, 99999);
         C.due("or so much", x.got(0, 2, 5), 37);
         C.due("void or not", x.got(0, 1, 5), 1);
-        CommonBond y = earning(97);
+        Bond y = earning(97);
         y.run(52);
         C.due("all of it", y.got(0, 0, 5) + y.got(0, 1, 5), 39);
         y.found(0, 0, -3000);
@@ -345,9 +345,9 @@ public final class WeeksTest {
     }
 
     private static void voided() {
-        CommonBond none = two();
+        Bond none = two();
         C.refused("no year is closed", none, () -> none.voided(), -7, -7);
-        CommonBond x = earning(97);
+        Bond x = earning(97);
         x.run(52);
         C.due("entries", x.count(2), 4);
         x.draw(0, 3000);
@@ -367,17 +367,17 @@ public final class WeeksTest {
         C.due("of nothing", x.voided(), 0);
         C.due("is void too", x.year(1, 6), 1);
         C.due("nothing is no entry", x.count(2), 6);
-        CommonBond y = earning(97);
+        Bond y = earning(97);
         y.run(52);
         y.draw(0, 3001);
         C.refused("one has less than it got", y, () -> y.voided(), -7, -7);
         y.save(0, 1);
         C.due("as much as it got", y.voided(), 78);
-        CommonBond z = earning(97);
+        Bond z = earning(97);
         z.run(52);
         z.found(0, 0, -3029);
         C.refused("less by a book that was found", z, () -> z.voided(), -7, -7);
-        CommonBond last = earning(97);
+        Bond last = earning(97);
         last.run(60);
         last.run(60);
         C.due("only the last one: of nothing", last.voided(), 0);
