@@ -140,6 +140,10 @@ public final class BoundsOfImagesTest {
             "member 1 1; save 0 9000; ask 0 1000 10; answer 0; pay 0 1010; run 52; image; voided = 8; year 0 6 = 1",
             "undo; year 0 6 = 0; count 4 = 2; saved 0 52 52 = 9008; voided = 8; image; run 52; undo; year 0 6 = 1",
             "voided ! NO");
+        S.of("All is kept: the last YEAR",
+            "6 x run 60; member 1 1; save 0 9000; ask 0 1000 10; answer 0; pay 0 1010; image; run 4; voided = 8; undo",
+            "year 6 0 ! BEYOND; run 4; year 6 6 = 0; year 6 0 = 10; got 6 0 3 = 10; got 6 0 2 = 36000; voided = 8",
+            "undo; ask 0 1000 10; answer 1 = 0; pay 1 101; run 4; year 6 0 = 11; got 6 0 3 = 11; year 6 6 = 0");
         S.of("All is kept: the open WEEK of a YEAR",
             "run 51; image; run 1; count 10 = 1; undo; count 10 = 0; run 1; count 10 = 1; run 51; count 10 = 1");
     }
@@ -148,6 +152,9 @@ public final class BoundsOfImagesTest {
         S.of("All is kept: RUNS",
             "runs 0 0 5; runs 1 7 6; image; runs 0 0 8; runs 2 3 4; calm 1 = 1; undo; calm 2 = 0; runs 2 3 0 = 0",
             "runs 0 0 0 = 5; runs 1 7 0 = 6; calm 1 = 1; undo; calm 0 = 1; calm 1 = 1; calm 2 = 0; calm 3 = 0");
+        S.of("All is kept: the last RUN",
+            "runs 3 0 5; runs 3 7 6; image; runs 3 0 7; runs 3 7 8; undo; runs 3 0 0 = 5; runs 3 7 0 = 6; undo",
+            "calm 3 = 1; undo; runs 3 7 0 = 6");
         S.of("All is kept: who was on DUTY",
             "3 x member 1 1; duty 1; image; duty 2; run 1; duty 0; undo; duty 2 = 1; undo; run 1; duty 0 = NONE",
             "counted 1; suspects = 3");

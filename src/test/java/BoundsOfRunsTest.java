@@ -112,6 +112,10 @@ public final class BoundsOfRunsTest {
         S.of("LASTS: DUES of open LOANS in the last WEEK there is",
             one + "runs 0 3 800; judge = 1; runs 0 3 801; judge = 0; runs 0 3 0; runs 0 4 1003; judge = 1",
             "runs 0 4 1004; judge = 0; runs 0 4 0; runs 0 7 1003; judge = 1; runs 0 7 1004; judge = 0");
+        S.of("LASTS: DUES of open LOANS in each of 8 WEEKS: the eighth too",
+            "2 x member 1 1; save 0 1000; rule 'rate 0' 0 9; ask 10 800 8; answer 0 = 0; ask 0 200 1; lay 1; set 0 1",
+            "run 1; runs 0 7 1000; judge = 1; runs 0 7 1001; judge = 0; runs 0 7 0; runs 0 6 900; judge = 1",
+            "runs 0 6 901; judge = 0");
         S.of("LASTS: DUES of all open LOANS",
             one + "save 0 99; ask 20 99 2; answer 2 = 0; run 1; runs 0 0 249; judge = 1; runs 0 0 250; judge = 0",
             "runs 0 0 0; runs 0 1 699; judge = 1; runs 0 1 700; judge = 0");
@@ -145,6 +149,10 @@ public final class BoundsOfRunsTest {
         S.of("LASTS: the new ones' DUES of all of the set",
             one + "ask 0 1000 1; ask 10 1000 2; lay 2; set 1 1; runs 0 1 1502; judge = 1; runs 0 1 1503; judge = 0",
             "best 3 = 1; runs 0 1 1502; best 3 = 3");
+        S.of("LASTS: the new ones' DUES of the last ASK there is",
+            "member 1 1; save 0 100; 23 x ask 0 1 1; ask 0 100 1; lay 1; set 0 23; runs 0 1 100; judge = 1",
+            "best 8388608 = 8388608; runs 0 1 101; judge = 0; best 8388608 = 0; runs 0 1 100; set 0 22; judge = 1",
+            "runs 0 1 101; judge = 0");
         S.of("LASTS: the new ones' DUES of BRIDGE",
             one + "ask 4 1000 3; back 0 1 1000; lay 1; runs 0 2 1001; judge = 0; runs 0 2 1000; judge = 1; runs 0 2 0",
             "runs 0 3 2006; judge = 1; runs 0 3 2007; judge = 0");

@@ -228,6 +228,10 @@ public final class BoundsOfSavingsTest {
             "look 0 9 = 3");
         S.of("LATE ENTRIES of the dead: the first ENTRY too, and those of another are none",
             "member 1 1; member 2 2; run 1; save 0 5; save 1 5; died 0 0; look 0 9 = 1; look 1 9 = 0");
+        S.of("LATE ENTRIES of the dead: its own alone",
+            "3 x member 1 1; save 1 1; run 1; save 0 1; save 1 1; run 1; save 1 1; save 0 1; save 2 1; died 0 1",
+            "died 1 0; died 2 1; look 0 9 = 1; look 1 9 = 2; look 2 9 = 1; died 0 0; look 0 9 = 2; died 1 1",
+            "look 1 9 = 1; died 1 2; look 1 9 = 0; died 2 2; look 2 9 = 0");
         S.of("LATE ENTRIES of the dead: with those by partings, FAILURES",
             "member 1 1; save 0 5000; ask 0 1000 10; answer 0; pay 0 1010; ask 0 500 1; answer 1; died 0 0",
             "look 0 9 = 0; run 13; look 0 9 = 0; run 1 = 1; look 0 9 = 1; run 38; look 0 9 = 2; run 1; voided = 8",

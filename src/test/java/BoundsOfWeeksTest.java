@@ -110,6 +110,10 @@ public final class BoundsOfWeeksTest {
         S.of("(1) (What is taken is an ENTRY below 0.)",
             LENT + "run 13; count 2 = 1; run 1; count 2 = 2; saved 0 14 14 = 8500; saved 0 13 13 = 8500",
             "saved 0 12 14 = 9000; saved 0 14 12 = 9000; count 14 = 8500; count 3 = 8500; look 0 8 = 0");
+        S.of("(1) (What is taken is an ENTRY below 0): of BACKERS too",
+            "3 x member 1 1; save 2 900; ask 0 90 1; back 0 2 50; answer 0 = 0; run 13; count 2 = 1; run 1 = 1",
+            "count 2 = 2; saved 2 13 13 = 850; saved 2 13 14 = 850; saved 2 12 14 = 900; saved 2 14 12 = 900",
+            "saved 2 14 14 = 850; look 2 8 = 0");
         S.of("(1) an ENTRY of 1",
             "2 x member 1 1; save 0 1; save 1 90; ask 0 50 1; answer 0 = 0; run 14; count 2 = 3; loanOf 0 8 = 1",
             "saved 0 14 14 = 0; loanOf 0 10 = 49");
@@ -241,6 +245,11 @@ public final class BoundsOfWeeksTest {
             "saved 9 52 52 = 101");
         S.of("(2) DIVIDEND: the last MEMBER alone has a part",
             "16 x member 1 1; save 15 1000; " + parted + "got 0 0 0 = 0; got 0 15 0 = 10; got 0 15 5 = 10");
+        S.of("(2) DIVIDEND: the greatest rest is the last MEMBER's",
+            "16 x member 1 1; save 0 940; save 15 60; " + parted + "got 0 0 0 = 9; got 0 15 0 = 1; got 0 14 0 = 0");
+        S.of("(2) DIVIDEND: the greatest rest is one in between",
+            "16 x member 1 1; save 0 930; save 7 60; save 12 10; " + parted,
+            "got 0 0 0 = 9; got 0 7 0 = 1; got 0 12 0 = 0");
         S.of("(2) DIVIDEND: one SHARE-WEEK in all is a part",
             "member 1 1; save 0 1000; ask 0 1000 10; answer 0; pay 0 1010; draw 0 1000; run 51; save 0 1; run 1",
             "got 0 0 2 = 1; year 0 4 = 4; got 0 0 0 = 4; got 0 0 5 = 4; count 4 = 2");
