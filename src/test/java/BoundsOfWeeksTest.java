@@ -256,6 +256,9 @@ public final class BoundsOfWeeksTest {
         S.of("(2) DIVIDEND: without any part it comes to THE RESERVE",
             "member 1 1; save 0 1000; ask 0 1000 10; answer 0; pay 0 1010; draw 0 1000; run 52; got 0 0 2 = 0",
             "year 0 3 = 2; year 0 4 = 4; got 0 0 0 = 0; got 0 0 1 = 4; got 0 0 5 = 0; count 4 = 6; saved 0 52 52 = 4");
+        S.of("(2) DIVIDEND alone comes to THE RESERVE then",
+            "member 1 1; save 0 1000; ask 0 1000 10; answer 0; pay 0 1010; draw 0 1000; rule 'div 25' 0 99; cost 1",
+            "run 52; year 0 3 = 2; year 0 4 = 2; year 0 5 = 6; got 0 0 0 = 0; got 0 0 1 = 6; count 4 = 3");
     }
 
     private static void partedByEarned() {
