@@ -6,6 +6,8 @@ public final class BoundsOfImagesTest {
         image();
         keptOfMembers();
         keptOfEach();
+        keptOfThree();
+        nothingIsLeft();
         keptOfAsks();
         keptOfLoans();
         keptOfWeeks();
@@ -68,6 +70,29 @@ public final class BoundsOfImagesTest {
             "askOf 1 2 = 7; askOf 0 3 = 6; askOf 1 3 = 8; askOf 2 3 = 3; askOf 3 3 = 4; askOf 0 4 = 2; askOf 1 4 = 3",
             "says 2 0 = 3; says 2 1 = 9; says 2 -1 = 10; why 2 1 = 1; why 2 0 = 0; loanOf 0 0 = 2; loanOf 1 0 = 3",
             "loanOf 1 1 = 1; dues 0 4 = 1; dues 1 5 = 1; wrong = 1; count 12 = 2; suspects = 0; duty 0 = 1");
+    }
+
+    private static void keptOfThree() {
+        S.of("All is kept: each of three",
+            "member 1 2; member 3 4; member 5 6; run 1; save 0 5; save 1 6; save 2 7; rule 'rate 1' 1 9",
+            "rule 'rate 2' 3 9; rule 'rate 3' 5 9; counted 18 = 0; book 1 1 6; book 2 1 7; run 1; duty 0; found 0 1 1",
+            "counted 19 = 0; book 2 2 7; run 1; duty 1; counted 18 = 1; image; run 3; undo = 3; says 2 -1 = 2",
+            "why 2 -1 = 1; wrong = 0; suspects = 2; run 1; says 2 -1 = 2; run 1; says 2 -1 = 3; found 1 1 1",
+            "wrong = 1; found 2 2 1; wrong = 5");
+    }
+
+    private static void nothingIsLeft() {
+        S.of("undo: nothing is left of LOANS that come behind the image",
+            "2 x member 1 1; save 0 9000; image; ask 10 1000 10; answer 0; pay 0 505; run 1; undo; run 14 = 0; run 38",
+            "year 0 0 = 0; year 0 1 = 0; count 2 = 1; count 15 = 0; look 1 5 = 0; look 1 6 = 0; undo; ask 10 5 1",
+            "answer 0 = 0; run 14 = 1; count 7 = 0");
+        S.of("undo: nothing is left of ENTRIES that come behind the image",
+            "2 x member 1 1; save 0 5; image; run 3; save 0 9; found 0 1 7; save 1 4; undo; saved 0 0 0 = 5; died 0 0",
+            "look 0 9 = 0; count 14 = 5; run 52; got 0 0 2 = 260; got 0 0 4 = 260; got 0 1 4 = 0; look 0 9 = 0",
+            "saved 0 52 52 = 5");
+        S.of("undo: nothing is left of ASKS, BOOKS and RULES that come behind the image",
+            "member 1 1; save 0 9; image; ask 0 5 1; book 0 0 8; rule 'rate 7' 0 9; counted 8; undo; best 0 = 0",
+            "best 1 ! NO; wrong = 0; why 2 -1 = NONE; suspects = NONE; lay 1; judge ! NO");
     }
 
     private static void keptOfAsks() {

@@ -40,6 +40,9 @@ public final class BoundsOfWeeksTest {
         S.of("(1) it is not LATE with all DUES PAID in this WEEK",
             "member 1 1; save 0 90; ask 0 10 2; answer 0; run 1; pay 0 5; run 1; loanOf 0 6 = 0; pay 0 4; run 1",
             "loanOf 0 6 = 1");
+        S.of("(1) it is not LATE with more PAID than DUE",
+            "member 1 1; save 0 90; ask 0 12 4; answer 0; run 1; pay 0 5; run 1; loanOf 0 6 = 0; look 0 6 = 0; run 1",
+            "loanOf 0 6 = 1; look 0 6 = 1");
         S.of("(1) LATE WEEKS are 1 more, else 0",
             "member 1 1; save 0 90; ask 0 12 4; answer 0; run 3; loanOf 0 6 = 2; pay 0 9; run 1; loanOf 0 6 = 0",
             "run 1; loanOf 0 6 = 1; pay 0 2; run 1; loanOf 0 6 = 2");
