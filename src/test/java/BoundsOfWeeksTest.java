@@ -103,6 +103,10 @@ public final class BoundsOfWeeksTest {
         S.of("(1) of each the least: what is still lacking",
             three + "save 1 500; save 2 500; back 0 1 99; back 0 2 60; answer 0 = 0; run 14; loanOf 0 9 = 100",
             "loanOf 0 10 = 0; saved 1 14 14 = 401; saved 2 14 14 = 499");
+        S.of("(1) from its BACKERS: all 4 of them",
+            "6 x member 1 1; save 5 9000; save 1 10; save 2 20; save 3 30; save 4 40; ask 0 100 1; back 0 4 40",
+            "back 0 3 29; back 0 2 21; back 0 1 5; answer 0 = 0; run 14 = 1; loanOf 0 9 = 94; loanOf 0 10 = 6",
+            "saved 4 14 14 = 0; saved 3 14 14 = 1; saved 2 14 14 = 0; saved 1 14 14 = 5");
         S.of("(1) of what is SAVED below 0 nothing is taken",
             three + "save 0 10; save 1 10; back 0 1 50; answer 0 = 0; run 1; found 0 0 -60; found 1 0 -20; run 12",
             "count 2 = 5; run 1 = 1; loanOf 0 8 = 0; loanOf 0 9 = 0; loanOf 0 10 = 100; count 2 = 5",
@@ -320,6 +324,10 @@ public final class BoundsOfWeeksTest {
             "member 1 1; save 0 5; run 53; voided = 0; count 2 = 1; year 0 6 = 1; count 4 = 0");
         S.of("voided: The last closed YEAR is VOID",
             EARNED + "run 52; run 52; voided = 0; year 0 6 = 0; year 1 6 = 1; count 4 = 19; voided ! NO");
+        S.of("voided: what was taken of all 16 MEMBERS",
+            "16 x member 1 1; save 0 940; save 15 60; ask 150 1000 10; answer 0 = 0; pay 0 1010; run 52",
+            "got 0 0 0 = 4; got 0 15 1 = 4; saved 15 52 52 = 64; voided = 8; saved 15 52 52 = 60; saved 0 52 52 = 940",
+            "count 2 = 4; count 4 = 10");
         S.of("voided: NO: it is VOID",
             EARNED + "run 52; voided = 78; voided ! NO; run 51; voided ! NO; count 0 = 103; run 1; voided = 0");
         S.of("voided: NO: none is closed",
